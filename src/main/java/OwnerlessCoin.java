@@ -640,17 +640,13 @@ public final class OwnerlessCoin {
             int coefficient = secret;
             for (int k = 0; k < threshold && k < MOST_THRESHOLD; k++) {
                 checks[k] = power(G, coefficient, P);
-                addTerm(coefficient, k);
+                for (int j = 0; j < MOST_PARTICIPANTS; j++) {
+                    shares[j] = (shares[j] + coefficient * power(j + 1, k, Q)) % Q;
+                }
                 state = stepped(state);
                 coefficient = drawn(state) % Q;
             }
             rightHolders = ALL_SETS - 1;
-        }
-
-        private void addTerm(int coefficient, int k) {
-            for (int j = 0; j < MOST_PARTICIPANTS; j++) {
-                shares[j] = (shares[j] + coefficient * power(j + 1, k, Q)) % Q;
-            }
         }
 
         void putLock(int secret, int delay) {
@@ -752,7 +748,7 @@ public final class OwnerlessCoin {
             } else {
                 zeros++;
             }
-            run = run > 0 && runCoin == coin ? run + 1 : 1;
+            run = runCoin == coin ? run + 1 : 1;
             runCoin = coin;
             longest = Math.max(longest, run);
         }
