@@ -79,11 +79,9 @@ public final class OwnerlessCoin {
     }
 
     public int setMethod(int method) {
-        if (!isWithin(method, ZERO, DELAY)) {
-            return BAD;
-        }
-        if (lab.phase != RESTING) {
-            return STATE;
+        int error = settingError(method, ZERO, DELAY);
+        if (error < 0) {
+            return error;
         }
         history.remember(lab);
         int previous = lab.method;
@@ -92,11 +90,9 @@ public final class OwnerlessCoin {
     }
 
     public int setThreshold(int threshold) {
-        if (!isWithin(threshold, 1, MOST_THRESHOLD)) {
-            return BAD;
-        }
-        if (lab.phase != RESTING) {
-            return STATE;
+        int error = settingError(threshold, 1, MOST_THRESHOLD);
+        if (error < 0) {
+            return error;
         }
         history.remember(lab);
         int previous = lab.threshold;
@@ -105,11 +101,9 @@ public final class OwnerlessCoin {
     }
 
     public int setFine(int fine) {
-        if (!isWithin(fine, 0, MOST_FINE)) {
-            return BAD;
-        }
-        if (lab.phase != RESTING) {
-            return STATE;
+        int error = settingError(fine, 0, MOST_FINE);
+        if (error < 0) {
+            return error;
         }
         history.remember(lab);
         int previous = lab.fine;
@@ -118,16 +112,22 @@ public final class OwnerlessCoin {
     }
 
     public int setDelay(int delay) {
-        if (!isWithin(delay, 1, MOST_DELAY)) {
-            return BAD;
-        }
-        if (lab.phase != RESTING) {
-            return STATE;
+        int error = settingError(delay, 1, MOST_DELAY);
+        if (error < 0) {
+            return error;
         }
         history.remember(lab);
         int previous = lab.delay;
         lab.delay = delay;
         return previous;
+    }
+
+    /** The error that setting a value returns, or 0. */
+    private int settingError(int value, int least, int greatest) {
+        if (!isWithin(value, least, greatest)) {
+            return BAD;
+        }
+        return lab.phase == RESTING ? 0 : STATE;
     }
 
     // ---- a round
