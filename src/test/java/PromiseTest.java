@@ -6,80 +6,13 @@ import java.util.Set;
 import java.util.TreeSet;
 
 /** For each promise: ordinary inputs, the edges that the document names, and wrong inputs. */
-public final class PromiseTest {
-    static final int BAD = -1, STATE = -2, FULL = -3, COPY = -4, FAILED = -5, NONE = -9;
-    static final int MIN = Integer.MIN_VALUE, MAX = Integer.MAX_VALUE, Q = 1019, N = 62615533;
-    static int wrong = 0, checked = 0;
-    static String promise = "";
-
-    static void due(String what, long got, long want) {
-        checked++;
-        if (got != want) {
-            wrong++;
-            if (wrong > 40) {
-                return;
-            }
-            System.out.println("promise " + promise + ": " + what + " answered " + got + ", due is " + want);
-        }
-    }
-
-    static int mix(int h, int v) {
-        int y = (h ^ v) * -1640531535;
-        return y ^ (y >>> 15);
-    }
-
-    static int digest(int round, int secret, int nonce) {
-        return mix(mix(mix(17, round), secret), nonce);
-    }
-
-    /** The nonce that gives this digest with this secret. */
-    static int nonceFor(int round, int secret, int digest) {
-        int y = digest ^ (digest >>> 15) ^ (digest >>> 30);
-        int inverse = BigInteger.valueOf(-1640531535).modInverse(BigInteger.ONE.shiftLeft(32)).intValue();
-        return (y * inverse) ^ mix(mix(17, round), secret);
-    }
-
-    static OwnerlessCoin lab(int method, int... balances) {
-        OwnerlessCoin x = new OwnerlessCoin();
-        x.setMethod(method);
-        for (int balance : balances) {
-            x.addParticipant(balance);
-        }
-        return x;
-    }
-
-    /** A lab whose round is in its opening; member p committed to secret 10 * p + 1 and nonce p. */
-    static OwnerlessCoin opening(int method, int people) {
-        OwnerlessCoin x = committing(method, people);
-        x.beginOpening();
-        return x;
-    }
-
-    static OwnerlessCoin committing(int method, int people) {
-        OwnerlessCoin x = lab(method);
-        for (int p = 0; p < people; p++) {
-            x.addParticipant(100);
-        }
-        x.begin();
-        for (int p = 0; p < people; p++) {
-            x.commit(p, 10 * p + 1, p);
-        }
-        return x;
-    }
-
-    static int opens(OwnerlessCoin x, int p) {
-        return x.open(p, 10 * p + 1, p);
-    }
-
+public final class PromiseTest extends Checks {
     public static void main(String[] args) {
         face(); p1(); p2(); p3(); p4to7(); p8(); p9(); p9Deal(); p9DealAgain(); p9Lock(); p10(); p11(); p12(); p13(); p14(); p14Shares();
         p15(); p15Cheating(); p15Copies(); p16(); p17(); p18(); p19(); p20(); p21(); p22(); p23();
-        p24(); p25(); p26(); p27(); p28(); p29(); p30(); p31(); p32(); p33(); p34(); p35(); p36(); p37(); p38(); p39(); p39Acts(); p39All(); p40();
+        p24(); p25(); p26(); p27(); p28(); p29(); p30(); p31(); p32(); p33(); p34(); p35(); p36(); p37(); p38(); p39(); p39All(); p40();
         errorsChangeNothing();
-        System.out.println(wrong == 0 ? "promises: " + checked + " answers are as due" : "promises: " + wrong + " answers are not as due");
-        if (wrong != 0) {
-            System.exit(1);
-        }
+        finish("promises");
     }
 
     static void face() {
@@ -107,7 +40,7 @@ public final class PromiseTest {
     }
 
     static void p1() {
-        promise = "1";
+        promise = "promise 1";
         OwnerlessCoin x = new OwnerlessCoin();
         due("account(0, 0)", x.account(0, 0), BAD);
         due("phase()", x.phase(), 0);
@@ -122,7 +55,7 @@ public final class PromiseTest {
     }
 
     static void p2() {
-        promise = "2";
+        promise = "promise 2";
         OwnerlessCoin x = new OwnerlessCoin();
         due("addParticipant(-1)", x.addParticipant(-1), BAD);
         due("addParticipant(1000001)", x.addParticipant(1000001), BAD);
@@ -154,7 +87,7 @@ public final class PromiseTest {
     }
 
     static void p3() {
-        promise = "3";
+        promise = "promise 3";
         OwnerlessCoin x = lab(0, 100, 100);
         for (int b : new int[] {3, 2, 1, 0, 3}) {
             int previous = x.account(1, 4);
@@ -177,7 +110,7 @@ public final class PromiseTest {
     static void p4to7() {
         int[] low = {0, 1, 0, 1}, high = {2, 8, 1000, 5000}, initial = {0, 2, 10, 100};
         for (int which = 0; which < 4; which++) {
-            promise = "" + (4 + which);
+            promise = "promise " + (4 + which);
             OwnerlessCoin x = lab(0, 5000, 5000);
             due("below", set(x, which, low[which] - 1), BAD);
             due("above", set(x, which, high[which] + 1), BAD);
@@ -214,7 +147,7 @@ public final class PromiseTest {
     }
 
     static void p8() {
-        promise = "8";
+        promise = "promise 8";
         OwnerlessCoin x = lab(0, 10, 9);
         due("begin() with one that can pay", x.begin(), STATE);
         x.addParticipant(10);
@@ -247,7 +180,7 @@ public final class PromiseTest {
     }
 
     static void p9() {
-        promise = "9";
+        promise = "promise 9";
         OwnerlessCoin x = lab(0, 100, 100, 5, 100);
         due("commit before the round", x.commit(0, 5, 5), STATE);
         due("commit(9, 5, 5)", x.commit(9, 5, 5), BAD);
@@ -282,30 +215,6 @@ public final class PromiseTest {
         due("commit by an expelled one", y.commit(0, 7, 7), STATE);
     }
 
-    static int[] polynomial(int secret, int nonce, int threshold) {
-        int[] a = new int[threshold];
-        a[0] = secret;
-        int state = nonce;
-        for (int k = 1; k < threshold; k++) {
-            state = 1103515245 * state + 12345;
-            a[k] = (state >>> 16) % Q;
-        }
-        return a;
-    }
-
-    static int at(int[] a, int x) {
-        long sum = 0, power = 1;
-        for (int c : a) {
-            sum += c * power;
-            power *= x;
-        }
-        return (int) (sum % Q);
-    }
-
-    static int power(long b, long e, long m) {
-        return BigInteger.valueOf(b).modPow(BigInteger.valueOf(e), BigInteger.valueOf(m)).intValue();
-    }
-
     static void p9Deal() {
         for (int threshold = 1; threshold <= 8; threshold++) {
             OwnerlessCoin x = lab(1, 50, 50, 50, 50, 50, 50, 50, 50);
@@ -316,12 +225,12 @@ public final class PromiseTest {
                 x.commit(p, secret, nonce);
                 int[] a = polynomial(secret, nonce, threshold);
                 for (int j = 0; j < 8; j++) {
-                    promise = "19";
+                    promise = "promise 19";
                     due("share", x.share(p, j), at(a, j + 1));
-                    promise = "20";
+                    promise = "promise 20";
                     due("isRight", x.isRight(p, j), 1);
                 }
-                promise = "21";
+                promise = "promise 21";
                 for (int k = 0; k < threshold; k++) {
                     due("check", x.check(p, k), power(4, a[k], 2039));
                 }
@@ -333,7 +242,7 @@ public final class PromiseTest {
 
     /** The shares of one round leave nothing behind for the next. */
     static void p9DealAgain() {
-        promise = "19";
+        promise = "promise 19";
         OwnerlessCoin x = committing(1, 3);
         x.spoil(1, 2, 77);
         x.beginOpening();
@@ -349,7 +258,7 @@ public final class PromiseTest {
     }
 
     static void p9Lock() {
-        promise = "23";
+        promise = "promise 23";
         for (int delay : new int[] {1, 2, 77, 5000}) {
             OwnerlessCoin x = lab(2, 50, 50);
             x.setDelay(delay);
@@ -364,12 +273,8 @@ public final class PromiseTest {
         }
     }
 
-    static int slowly(int b, int d) {
-        return BigInteger.valueOf(b).modPow(BigInteger.ONE.shiftLeft(d), BigInteger.valueOf(N)).intValue();
-    }
-
     static void p10() {
-        promise = "10";
+        promise = "promise 10";
         OwnerlessCoin x = committing(1, 3);
         int s = x.share(0, 1);
         due("spoil(3, 1, 1)", x.spoil(3, 1, 1), BAD);
@@ -401,7 +306,7 @@ public final class PromiseTest {
     }
 
     static void p11() {
-        promise = "11";
+        promise = "promise 11";
         OwnerlessCoin x = committing(1, 4);
         due("complain(4, 0)", x.complain(4, 0), BAD);
         due("complain(0, 4)", x.complain(0, 4), BAD);
@@ -457,7 +362,7 @@ public final class PromiseTest {
     }
 
     static void p12() {
-        promise = "12";
+        promise = "promise 12";
         OwnerlessCoin x = lab(0, 100, 100, 100);
         due("beginOpening() without a round", x.beginOpening(), STATE);
         x.begin();
@@ -490,7 +395,7 @@ public final class PromiseTest {
     }
 
     static void p13() {
-        promise = "13";
+        promise = "promise 13";
         OwnerlessCoin x = lab(0, 100, 100, 100);
         due("open without a round", x.open(0, 1, 0), STATE);
         x.begin();
@@ -518,7 +423,7 @@ public final class PromiseTest {
     }
 
     static void p14() {
-        promise = "14";
+        promise = "promise 14";
         due("close() without a round", lab(0).close(), STATE);
         due("close() in the committing", committing(0, 2).close(), STATE);
         for (int method = 0; method < 3; method++) {
@@ -562,7 +467,7 @@ public final class PromiseTest {
     }
 
     static void p14Shares() {
-        promise = "14";
+        promise = "promise 14";
         OwnerlessCoin x = opening(1, 4);
         opens(x, 1);
         due("close() with one share", x.close(), FAILED);
@@ -636,18 +541,8 @@ public final class PromiseTest {
         due("pot()", v.pot(), 1);
     }
 
-    static int[] draws(int seed, int number) {
-        int[] d = new int[number];
-        int state = seed;
-        for (int i = 0; i < number; i++) {
-            state = 1103515245 * state + 12345;
-            d[i] = state >>> 16;
-        }
-        return d;
-    }
-
     static void p15() {
-        promise = "15";
+        promise = "promise 15";
         OwnerlessCoin x = lab(0, 100, 5, 100, 100, 100);
         due("behave", x.behave(3, 1), 0);
         x.behave(4, 3);
@@ -703,16 +598,8 @@ public final class PromiseTest {
         due("opened", y.account(1, 1), 20);
     }
 
-    static int coin(int... contributions) {
-        int h = 0;
-        for (int c : contributions) {
-            h = mix(h, c);
-        }
-        return h & 1;
-    }
-
     static void p15Cheating() {
-        promise = "15";
+        promise = "promise 15";
         // 1 cheats 3 (2 is no member), 3 cheats 0; 0 has 3 expelled, which so complains no more
         OwnerlessCoin x = lab(1, 100, 100, 3, 100);
         x.behave(1, 3);
@@ -759,7 +646,7 @@ public final class PromiseTest {
     }
 
     static void p15Copies() {
-        promise = "15";
+        promise = "promise 15";
         // with this seed the first two members of round 0 draw numbers with one digest
         int seed = -1867605333;
         int[] d = draws(seed, 6);
@@ -782,7 +669,7 @@ public final class PromiseTest {
     }
 
     static void p16() {
-        promise = "16";
+        promise = "promise 16";
         OwnerlessCoin x = lab(0, 100, 100);
         due("phase()", x.phase(), 0);
         x.begin();
@@ -798,7 +685,7 @@ public final class PromiseTest {
     }
 
     static void p17() {
-        promise = "17";
+        promise = "promise 17";
         OwnerlessCoin x = lab(1, 100, 100, 100, 5, 100);
         due("set(0)", x.set(0), STATE);
         due("set(4)", x.set(4), BAD);
@@ -833,7 +720,7 @@ public final class PromiseTest {
     }
 
     static void p18() {
-        promise = "18";
+        promise = "promise 18";
         OwnerlessCoin x = lab(0, 100, 100, 100);
         due("digest(0)", x.digest(0), NONE);
         due("digest(3)", x.digest(3), BAD);
@@ -855,7 +742,7 @@ public final class PromiseTest {
     }
 
     static void p19() {
-        promise = "19";
+        promise = "promise 19";
         OwnerlessCoin x = lab(1, 100, 100, 5, 100);
         due("share(0, 1)", x.share(0, 1), NONE);
         x.begin();
@@ -881,7 +768,7 @@ public final class PromiseTest {
     }
 
     static void p20() {
-        promise = "20";
+        promise = "promise 20";
         OwnerlessCoin x = committing(1, 3);
         due("isRight(0, 3)", x.isRight(0, 3), BAD);
         due("isRight(3, 0)", x.isRight(3, 0), BAD);
@@ -917,7 +804,7 @@ public final class PromiseTest {
     }
 
     static void p21() {
-        promise = "21";
+        promise = "promise 21";
         OwnerlessCoin x = committing(1, 2);
         due("check(0, 0)", x.check(0, 0), 4);
         due("check(2, 0)", x.check(2, 0), BAD);
@@ -942,7 +829,7 @@ public final class PromiseTest {
     }
 
     static void p22() {
-        promise = "22";
+        promise = "promise 22";
         OwnerlessCoin x = lab(1, 100, 100, 100, 5, 100);
         x.setThreshold(3);
         due("recover(0, 7) without a round", x.recover(0, 7), NONE);
@@ -994,7 +881,7 @@ public final class PromiseTest {
     }
 
     static void p23() {
-        promise = "23";
+        promise = "promise 23";
         OwnerlessCoin x = lab(2, 50, 50, 5);
         due("lock(0, 0)", x.lock(0, 0), NONE);
         due("lock(3, 0)", x.lock(3, 0), BAD);
@@ -1019,7 +906,7 @@ public final class PromiseTest {
     }
 
     static void p24() {
-        promise = "24";
+        promise = "promise 24";
         OwnerlessCoin x = opening(0, 4);
         due("results(0)", x.results(0), 1);
         due("results(15)", x.results(15), distinct(new int[] {1, 11, 21, 31}, 15));
@@ -1075,7 +962,7 @@ public final class PromiseTest {
     }
 
     static void p25() {
-        promise = "25";
+        promise = "promise 25";
         OwnerlessCoin x = opening(0, 3);
         int all = coin(1, 11, 21), without = coin(1, 11, 0);
         for (int c = 0; c < 2; c++) {
@@ -1112,7 +999,7 @@ public final class PromiseTest {
     }
 
     static void p26() {
-        promise = "26";
+        promise = "promise 26";
         OwnerlessCoin x = opening(0, 4);
         for (int coalition = 0; coalition < 16; coalition++) {
             for (int bits = 1; bits <= 4; bits++) {
@@ -1206,7 +1093,7 @@ public final class PromiseTest {
     static final int[] DELAYS = {0, 1, 2, 3, 10, 77, 1000, 5000};
 
     static void p27() {
-        promise = "27";
+        promise = "promise 27";
         OwnerlessCoin x = new OwnerlessCoin();
         for (int b : BASES) {
             for (int d : DELAYS) {
@@ -1218,7 +1105,7 @@ public final class PromiseTest {
     }
 
     static void p28() {
-        promise = "28";
+        promise = "promise 28";
         OwnerlessCoin x = new OwnerlessCoin();
         for (int b : new int[] {2, 3, 100, 7905, 7906}) {
             for (int d : DELAYS) {
@@ -1236,21 +1123,8 @@ public final class PromiseTest {
         due("quick(2, 1000000001)", x.quick(2, 1000000001), BAD);
     }
 
-    static int primeFor(int b, int y) {
-        int l = 257 + (mix(mix(19, b), y) >>> 22);
-        while (!BigInteger.valueOf(l).isProbablePrime(50)) {
-            l++;
-        }
-        return l;
-    }
-
-    static int proofFor(int b, int d) {
-        BigInteger l = BigInteger.valueOf(primeFor(b, slowly(b, d)));
-        return BigInteger.valueOf(b).modPow(BigInteger.ONE.shiftLeft(d).divide(l), BigInteger.valueOf(N)).intValue();
-    }
-
     static void p29() {
-        promise = "29";
+        promise = "promise 29";
         OwnerlessCoin x = new OwnerlessCoin();
         for (int b : BASES) {
             for (int d : DELAYS) {
@@ -1260,7 +1134,7 @@ public final class PromiseTest {
         boolean least = false;
         for (int b = 2; b < 3000; b++) {
             // an object is used for at most 512 calls
-            x = b % 500 == 0 ? new OwnerlessCoin() : x;
+            x = b % 500 == 2 ? new OwnerlessCoin() : x;
             int l = x.prime(b, 0);
             due("prime(" + b + ", 0)", l, primeFor(b, b));
             least |= l == 257;
@@ -1270,7 +1144,7 @@ public final class PromiseTest {
     }
 
     static void p30() {
-        promise = "30";
+        promise = "promise 30";
         OwnerlessCoin x = new OwnerlessCoin();
         for (int b : BASES) {
             for (int d : DELAYS) {
@@ -1284,7 +1158,7 @@ public final class PromiseTest {
     }
 
     static void p31() {
-        promise = "31";
+        promise = "promise 31";
         OwnerlessCoin x = new OwnerlessCoin();
         for (int b : BASES) {
             for (int d : DELAYS) {
@@ -1318,7 +1192,7 @@ public final class PromiseTest {
     }
 
     static void p32() {
-        promise = "32";
+        promise = "promise 32";
         OwnerlessCoin x = lab(0, 100, 200);
         x.behave(1, 1);
         x.play(1);
@@ -1343,7 +1217,7 @@ public final class PromiseTest {
     }
 
     static void p33() {
-        promise = "33";
+        promise = "promise 33";
         OwnerlessCoin x = lab(0, 100, 25);
         x.setFine(20);
         x.behave(0, 1);
@@ -1359,7 +1233,7 @@ public final class PromiseTest {
     }
 
     static void p34() {
-        promise = "34";
+        promise = "promise 34";
         OwnerlessCoin x = lab(0, 100, 100);
         x.begin();
         due("rounds()", x.rounds(), 0);
@@ -1379,9 +1253,9 @@ public final class PromiseTest {
 
     static void pastIs(OwnerlessCoin x, int latest, int past, int coin, int output) {
         boolean kept = past > latest - 16;
-        promise = "36";
+        promise = "promise 36";
         due("output(" + past + ")", x.output(past), kept ? output : 0);
-        promise = "35";
+        promise = "promise 35";
         due("past(" + past + ", 0)", x.past(past, 0), kept ? coin : NONE);
         due("past(" + past + ", 1)", x.past(past, 1), kept ? 7 : NONE);
         due("past(" + past + ", 2)", x.past(past, 2), kept ? 3 - past % 2 : NONE);
@@ -1419,7 +1293,7 @@ public final class PromiseTest {
     }
 
     static void p36() {
-        promise = "36";
+        promise = "promise 36";
         OwnerlessCoin x = lab(0, 100, 100);
         due("output(0)", x.output(0), 0);
         x.play(9);
@@ -1435,7 +1309,7 @@ public final class PromiseTest {
     }
 
     static void p37() {
-        promise = "37";
+        promise = "promise 37";
         OwnerlessCoin x = lab(0, 100, 100);
         int[] count = new int[2];
         for (int r = 0; r < 30; r++) {
@@ -1453,7 +1327,7 @@ public final class PromiseTest {
     }
 
     static void p38() {
-        promise = "38";
+        promise = "promise 38";
         OwnerlessCoin x = lab(0, 100, 100);
         due("longestRun()", x.longestRun(), 0);
         x.begin();
@@ -1494,7 +1368,7 @@ public final class PromiseTest {
     }
 
     static void p39() {
-        promise = "39";
+        promise = "promise 39";
         OwnerlessCoin x = new OwnerlessCoin();
         due("undo()", x.undo(), STATE);
         long[] prints = new long[7];
@@ -1560,55 +1434,6 @@ public final class PromiseTest {
         due("open(0, 1, 0)", z.open(0, 1, 0), 1);
     }
 
-    /** Each act is one step of the history, also if it changes nothing that can be asked for. */
-    static void p39Acts() {
-        OwnerlessCoin x = lab(1, 100, 100, 100, 100);
-        long start = all(x);
-        step(x, start, x.addParticipant(9), 4);
-        step(x, start, x.behave(1, 2), 0);
-        step(x, start, x.behave(1, 0), 0);
-        step(x, start, x.setMethod(2), 1);
-        step(x, start, x.setMethod(1), 1);
-        step(x, start, x.setThreshold(3), 2);
-        step(x, start, x.setThreshold(2), 2);
-        step(x, start, x.setFine(3), 10);
-        step(x, start, x.setFine(10), 10);
-        step(x, start, x.setDelay(3), 100);
-        step(x, start, x.setDelay(100), 100);
-        step(x, start, x.play(8), coin(draws(8, 7)[0] % Q, draws(8, 7)[2] % Q, draws(8, 7)[4] % Q, draws(8, 7)[6] % Q));
-        step(x, start, x.begin(), 0);
-        x.begin();
-        x.commit(0, 1, 0);
-        x.commit(2, 21, 2);
-        long committing = all(x);
-        step(x, committing, x.commit(1, 11, 1), digest(0, 11, 1) & 1073741823);
-        step(x, committing, x.spoil(0, 1, 3), (at(polynomial(1, 0, 2), 2) + 3) % Q);
-        step(x, committing, x.complain(1, 0), 0);
-        step(x, committing, x.beginOpening(), 2);
-        x.spoil(0, 1, 3);
-        long spoilt = all(x);
-        step(x, spoilt, x.complain(1, 0), 1);
-        x.beginOpening();
-        long opening = all(x);
-        step(x, opening, x.spoil(0, 2, 3), (at(polynomial(1, 0, 2), 3) + 3) % Q);
-        step(x, opening, x.behave(0, 1), 0);
-        step(x, opening, x.open(0, 1, 0), 1);
-        step(x, opening, x.open(0, 1, 1), 0);
-        step(x, opening, x.close(), FAILED);
-        OwnerlessCoin y = lab(0, 100, 100);
-        y.begin();
-        y.commit(0, 1, 0);
-        step(y, all(y), y.beginOpening(), FAILED);
-    }
-
-    static void step(OwnerlessCoin x, long before, int answer, int want) {
-        promise = "39";
-        due("an act", answer, want);
-        int left = x.undo();
-        due("states left", left >= 0 && left < 4 ? 1 : 0, 1);
-        due("all answers after undo()", all(x), before);
-    }
-
     /** A number made of the answers to many questions. */
     static long all(OwnerlessCoin x) {
         long f = x.fingerprint();
@@ -1665,7 +1490,7 @@ public final class PromiseTest {
     }
 
     static void p40() {
-        promise = "40";
+        promise = "promise 40";
         due("new", new OwnerlessCoin().fingerprint(), print(0, 0, 0, 0));
         OwnerlessCoin x = lab(1, 100, 100, 5, 100);
         x.behave(3, 2);
