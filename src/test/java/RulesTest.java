@@ -34,6 +34,7 @@ public final class RulesTest {
         library(code);
         members(code);
         methods(code);
+        objects(code);
         System.out.println(wrong == 0 ? "rules: nothing forbidden was seen" : "rules: " + wrong + " faults");
         if (wrong != 0) {
             System.exit(1);
@@ -56,6 +57,13 @@ public final class RulesTest {
                 fault("not of the allowed library: " + m.group());
             }
         }
+    }
+
+    /** All calls live in one room: only constructors and the rows of an object make objects. */
+    static void objects(String code) {
+        String calls = code.replaceAll("(?ms)^( +)(?:public )?[A-Z]\\w*\\(\\) \\{$.*?^\\1\\}$", "")
+                .replaceAll("(?m)^ +(?:private )?final [\\w\\[\\]]+ \\w+ = new [^;]*;$", "");
+        forbid(calls, "\\bnew\\b.*");
     }
 
     static void members(String code) {
